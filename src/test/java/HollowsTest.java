@@ -52,6 +52,8 @@ final class HollowsTest {
     Due.is("19: lakes() that touch at a slant", Maps.of(SLANTED).lakes(), 2);
     Due.is("19: lakes() that touch at a side", Maps.of("9 9 9 9", "9 1 3 9", "9 9 2 9", "9 9 9 9").lakes(), 1);
     Due.is("19: lakes() of a ring", Maps.of("9 9 9 9 9", "9 1 1 1 9", "9 1 9 1 9", "9 1 1 1 9", "9 9 9 9 9").lakes(), 1);
+    Due.is("19: lakes() of depth 1", Maps.of("9 9 9", "9 8 9", "9 9 9").lakes(), 1);
+    Due.is("19: lakes() behind FIELD 1", Maps.of("0 5 9", "9 1 9", "9 9 9").lakes(), 1);
     Due.is("19: lakes() without inside", Maps.of("9 1 9", "9 1 9").lakes(), 0);
   }
 
@@ -107,7 +109,11 @@ final class HollowsTest {
   }
 
   private static void lines() {
-    contourIs("a corner", Maps.of("10 0", "0 0"), 3, 1, 1, 0);
+    contourIs("the first corner", Maps.of("10 0", "0 0"), 3, 1, 1, 0);
+    contourIs("the second corner", Maps.of("0 10", "0 0"), 3, 1, 1, 0);
+    contourIs("the third corner", Maps.of("0 0", "10 0"), 3, 1, 1, 0);
+    contourIs("the fourth corner", Maps.of("0 0", "0 10"), 3, 1, 1, 0);
+    contourIs("a side", Maps.of("10 0", "10 0"), 3, 1, 1, 0);
     contourIs("a step", Maps.of("10 10 10 10", "0 0 0 0"), 3, 3, 1, 0);
     contourIs("a wall", Maps.of("0 10 0", "0 10 0", "0 10 0"), 3, 4, 2, 0);
     contourIs("two corners", Maps.of("10 0", "0 10"), 4, 2, 2, 0);

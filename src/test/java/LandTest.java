@@ -135,6 +135,7 @@ final class LandTest {
     Due.is("6: one FIELD", map.height(3, 0), 0);
     Due.is("6: dig(0, 1, 4, 1, 999)", map.dig(0, 1, 4, 1, 999), 0);
     Due.is("6: dig(4, 2, 4, 0, 20)", map.dig(4, 2, 4, 0, 20), 2);
+    Due.is("6: dig(4, 2, 4, 0, 20) again", map.dig(4, 2, 4, 0, 20), 0);
     for (int wrong : new int[] {-1, 5, LEAST, MOST}) {
       Due.noField(map, "6: dig(" + wrong + ", 0, 0, 0, 1)", () -> map.dig(wrong, 0, 0, 0, 1));
       Due.noField(map, "6: dig(0, " + wrong + ", 0, 0, 1)", () -> map.dig(0, wrong, 0, 0, 1));
@@ -185,6 +186,12 @@ final class LandTest {
     Due.is("8: wear(4)", map.wear(4), 2);
     Due.is("8: FLOW 3 alone", Maps.rows(map), "90 60 29 0 / 90 60 29 0");
     Due.is("8: wear(50) where no water goes on", Maps.flat(4, 4, 500).wear(50), 0);
+    WatershedMap slope = new WatershedMap();
+    slope.reset(16, 2);
+    slope.tilt(10, 0, 0);
+    Due.is("8: wear(1) on a long slope to FIELD 0", slope.wear(1), 2 * 6);
+    Due.is("8: from FLOW 10 on", slope.height(6, 0) * 1000 + slope.height(7, 0), 59 * 1000 + 70);
+    Due.is("8: the FIELD ahead of FIELD 0", slope.height(1, 0), 9);
     WatershedMap low = Maps.of("1 0", "1 0");
     Due.is("8: wear(50) of a step of 1", low.wear(50), 0);
   }
@@ -194,6 +201,7 @@ final class LandTest {
     Due.is("9: fill()", map.fill(), 50);
     Due.is("9: the HEIGHTS", Maps.rows(map), "9 9 9 9 9 / 9 7 7 7 9 / 9 7 7 7 7 / 9 7 7 7 9 / 9 9 9 9 3");
     Due.is("9: fill() again", map.fill(), 0);
+    Due.is("9: fill() of 1", Maps.of("9 9 9", "9 8 9", "9 9 9").fill(), 1);
   }
 
   private static void setBrook() {
@@ -216,6 +224,8 @@ final class LandTest {
     Due.is("11: map(2)", map.map(2), 5);
     Due.is("11: map(3)", map.map(3), 999);
     Due.is("11: map(4)", map.map(4), 1034);
+    Due.is("11: map(2) of FIELD 0", Maps.of("1 2", "3 4").map(2), 1);
+    Due.is("11: map(3) of FIELD 0", Maps.of("4 2", "3 1").map(3), 4);
     Due.is("11: map(2) of a high plain", Maps.flat(2, 2, 999).map(2), 999);
     for (int wrong : new int[] {-1, 5, LEAST, MOST}) {
       Due.illegal(map, "11: map(" + wrong + ")", () -> map.map(wrong));

@@ -23,8 +23,8 @@ final class ModelTest {
   }
 
   private void go() {
-    int w = from(2, run % 3 == 0 ? 16 : 9);
-    int h = from(2, run % 3 == 0 ? 16 : 9);
+    int w = side();
+    int h = side();
     same("reset", map.reset(w, h), model.reset(w, h));
     for (int call = 0; call < CALLS; call++) {
       int kind = random.nextInt(run % 2 == 0 ? 40 : 30);
@@ -45,6 +45,11 @@ final class ModelTest {
 
   private int from(int least, int most) {
     return least + random.nextInt(most - least + 1);
+  }
+
+  /** The first runs have the smallest and the largest MAPS. */
+  private int side() {
+    return run < 2 ? 2 : run < 8 ? 16 : from(2, run % 3 == 0 ? 16 : 9);
   }
 
   private int x() {

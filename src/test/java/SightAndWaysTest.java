@@ -113,6 +113,7 @@ final class SightAndWaysTest {
     wayIs("back over 1 too", plain, new int[] {2, 1, 0, 0}, 0, 1, 5, -1);
     wayIs("slanted", plain, new int[] {0, 2, 2, 0}, 2, 4, 6, -1);
     wayIs("to itself", plain, new int[] {1, 1, 1, 1}, 4, -1, -1);
+    wayIs("to FIELD 0", plain, new int[] {2, 2, 0, 0}, 0, 4, 8, -1);
     Due.is("26: far back", plain.way(0, 0, 2, 2, MOST), -1);
     Due.is("26: as far back as there are FIELDS", plain.way(0, 0, 2, 2, 9), -1);
     wayIs("round a wall", Maps.of("0 999 0", "0 999 0", "0 0 0"), new int[] {0, 0, 2, 0}, 2, 5, 7, 3, 0, -1);
@@ -140,6 +141,7 @@ final class SightAndWaysTest {
 
   private static void steepness() {
     Due.is("27: steepness() of a plain", Maps.flat(5, 4, 999).steepness(), 0.0);
+    Due.is("27: steepness() at FIELD 0", Maps.of("3 0", "0 0").steepness(), 3.0);
     Due.is("27: steepness() of a corner", Maps.of("0 0", "0 3").steepness(), 3.0);
     Due.is("27: steepness() is not cut", Maps.of("0 0 0", "0 0 1").steepness(), 4.0 / 6);
     Due.is("27: steepness() up and down", Maps.of("5 5 5", "5 5 5", "5 5 9").steepness(), 16.0 / 9);

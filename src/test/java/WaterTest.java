@@ -11,6 +11,7 @@ final class WaterTest {
     ranks();
     ranksOfAFork();
     unevenRanks();
+    toFieldZero();
     wrongInputs();
     basinsAndPits();
     mostRank();
@@ -97,6 +98,18 @@ final class WaterTest {
     map.setBrook(1);
     Due.is("13: a chain", map.water(2, 0, 0), 1);
     Due.is("13: RANK of the mouth", map.water(3, 1, 3), 2);
+  }
+
+  private static void toFieldZero() {
+    WatershedMap map = Maps.of("0 5", "6 7");
+    Due.is("13: FLOW of FIELD 0", map.water(0, 0, 1), 4);
+    Due.is("13: END of the other corner", map.water(1, 1, 2), 0);
+    Due.is("13: from the other corner to FIELD 0", map.water(1, 1, 4), 1);
+    Due.is("13: RANK below BROOK 5", map.water(0, 0, 3), 0);
+    map.setBrook(1);
+    Due.is("13: RANK of FIELD 0", map.water(0, 0, 3), 2);
+    Due.is("16: mostRank() at FIELD 0", map.mostRank(), 2);
+    Due.is("17: longestStream() to FIELD 0", map.longestStream(), 2);
   }
 
   private static void wrongInputs() {

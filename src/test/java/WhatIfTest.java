@@ -93,6 +93,8 @@ final class WhatIfTest {
     map.hill(6, 6, 4, 200);
     map.hill(3, 8, 3, -250);
     Due.is("31: digest() of a land", map.digest(), digestOf(map));
+    WatershedMap steps = Maps.of("99 100 101 199", "200 201 399 400", "401 99 200 400");
+    Due.is("31: digest() with LINES at its very numbers", steps.digest(), digestOf(steps));
     long before = map.digest();
     map.setBrook(2);
     Due.is("31: digest() with another BROOK", map.digest(), digestOf(map));
