@@ -26,9 +26,11 @@ final class Maps {
 
   static String rows(WatershedMap map) {
     StringBuilder text = new StringBuilder();
-    for (int y = 0; y < map.map(1); y++) {
+    int w = map.map(0);
+    int h = map.map(1);
+    for (int y = 0; y < h; y++) {
       text.append(y == 0 ? "" : " / ");
-      for (int x = 0; x < map.map(0); x++) {
+      for (int x = 0; x < w; x++) {
         text.append(x == 0 ? "" : " ").append(map.height(x, y));
       }
     }
@@ -41,7 +43,29 @@ final class Maps {
     return brook;
   }
 
+  /** All that a call could have changed, in three calls: an object is promised for 512 alone. */
   static String all(WatershedMap map) {
-    return rows(map) + ", brook " + brook(map);
+    return "digest " + map.digest() + ", brook " + brook(map);
+  }
+
+  /** A MAP of the greatest size, 0 inside and 999 at the EDGE. */
+  static WatershedMap basin() {
+    WatershedMap map = new WatershedMap();
+    map.reset(16, 16);
+    for (int k = 0; k < 16; k++) {
+      map.set(k, 0, 999);
+      map.set(k, 15, 999);
+      map.set(0, k, 999);
+      map.set(15, k, 999);
+    }
+    return map;
+  }
+
+  /** From which all water goes to FIELD 0. */
+  static WatershedMap slope(int w, int h) {
+    WatershedMap map = new WatershedMap();
+    map.reset(w, h);
+    map.tilt(10, 10, 0);
+    return map;
   }
 }

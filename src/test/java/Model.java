@@ -1,3 +1,4 @@
+import java.math.BigInteger;
 import java.util.HashMap;
 import java.util.HashSet;
 import java.util.List;
@@ -11,6 +12,19 @@ final class Model {
 
   int[][] heights = new int[12][12];
   int brook = 5;
+
+  static Model of(String... rows) {
+    Model model = new Model();
+    model.heights = new int[rows.length][];
+    for (int y = 0; y < rows.length; y++) {
+      String[] row = rows[y].split(" ");
+      model.heights[y] = new int[row.length];
+      for (int x = 0; x < row.length; x++) {
+        model.heights[y][x] = Integer.parseInt(row[x]);
+      }
+    }
+    return model;
+  }
 
   int w() {
     return heights[0].length;
@@ -177,6 +191,10 @@ final class Model {
     return new int[] {w(), h(), least, greatest, sum}[what];
   }
 
+  int height(int x, int y) {
+    return heights[y][x];
+  }
+
   private int direction(int number) {
     int best = atEdge(number) ? 8 : 9;
     int most = 0;
@@ -296,7 +314,11 @@ final class Model {
     return most;
   }
 
-  int level(int number) {
+  int level(int x, int y) {
+    return level(y * w() + x);
+  }
+
+  private int level(int number) {
     if (atEdge(number)) {
       return at(number);
     }
@@ -540,5 +562,31 @@ final class Model {
       best = seen(x, y, up) > seen(best, y, up) ? x : best;
     }
     return best;
+  }
+
+  /** The checksum as it would be if it did not wrap around. */
+  BigInteger digest() {
+    List<Integer> numbers = new ArrayList<>();
+    for (int what = 0; what <= 4; what++) {
+      numbers.add(map(what));
+    }
+    numbers.addAll(List.of(basins(), pits(), mostRank(), longestStream(), lakes(), volume()));
+    for (int c : new int[] {100, 200, 400}) {
+      for (int what = 0; what <= 2; what++) {
+        numbers.add(contour(c, what));
+      }
+    }
+    for (int number = 0; number < fields(); number++) {
+      numbers.add(at(number));
+      for (int what = 0; what <= 4; what++) {
+        numbers.add(water(number % w(), number / w(), what));
+      }
+      numbers.add(level(number));
+    }
+    BigInteger d = BigInteger.valueOf(58078);
+    for (int v : numbers) {
+      d = d.multiply(BigInteger.valueOf(31)).add(BigInteger.valueOf(v));
+    }
+    return d;
   }
 }

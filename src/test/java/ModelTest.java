@@ -2,13 +2,15 @@ import java.util.Random;
 
 /** Long runs of calls, the same ones each time; each answer is compared with the model's. */
 final class ModelTest {
-  private static final int RUNS = 150;
-  private static final int CALLS = 200;
+  private static final int RUNS = 400;
+  /** No more is promised of an object. */
+  private static final int CALLS = 512;
 
   private final WatershedMap map = new WatershedMap();
   private final Model model = new Model();
   private final Random random;
   private final int run;
+  private int calls;
 
   private ModelTest(int run) {
     this.run = run;
@@ -26,21 +28,24 @@ final class ModelTest {
     int w = side();
     int h = side();
     same("reset", map.reset(w, h), model.reset(w, h));
-    for (int call = 0; call < CALLS; call++) {
-      int kind = random.nextInt(run % 2 == 0 ? 40 : 30);
+    while (calls <= CALLS - 3) {
+      int kind = random.nextInt(run % 2 == 0 ? 48 : 36);
       if (kind < 12) {
         change(kind);
       } else {
-        ask(kind % 16);
+        ask(kind % 24);
       }
     }
-    for (int number = 0; number < model.w() * model.h(); number++) {
-      allOf(number % model.w(), number / model.w());
+    while (calls < CALLS - 1) {
+      same("map(4)", map.map(4), model.map(4));
     }
+    same("the 512th call, digest()", map.digest(), model.digest().longValue());
+    Due.is("run " + run + " made calls", calls, CALLS);
   }
 
   private void same(String call, long got, long want) {
-    Due.is("run " + run + ": " + call, got, want);
+    calls++;
+    Due.is("run " + run + ", call " + calls + ": " + call, got, want);
   }
 
   private int from(int least, int most) {
@@ -53,11 +58,17 @@ final class ModelTest {
   }
 
   private int x() {
-    return random.nextInt(model.w());
+    return place(model.w());
   }
 
   private int y() {
-    return random.nextInt(model.h());
+    return place(model.h());
+  }
+
+  /** Often at the EDGE. */
+  private int place(int side) {
+    int[] places = {0, side - 1, random.nextInt(side), random.nextInt(side)};
+    return places[random.nextInt(places.length)];
   }
 
   /** Often low ones and few kinds, so that many are alike. */
@@ -128,37 +139,40 @@ final class ModelTest {
       case 3 -> same("longestStream", map.longestStream(), model.longestStream());
       case 4 -> same("lakes", map.lakes(), model.lakes());
       case 5 -> same("volume", map.volume(), model.volume());
-      case 6, 7 -> contours(height);
+      case 6, 7 -> contour(height, random.nextInt(3));
       case 8 -> same("sees", map.sees(x, y, up, toX, toY) ? 1 : 0, model.sees(x, y, up, toX, toY) ? 1 : 0);
       case 9 -> same("seen", map.seen(x, y, up), model.seen(x, y, up));
       case 10 -> same("takes", map.takes(x, y, toX, toY), model.takes(x, y, toX, toY));
-      case 11 -> way(x, y, toX, toY);
-      case 12 -> Due.is("run " + run + ": steepness", map.steepness(), model.steepness());
+      case 11 -> way(x, y, toX, toY, random.nextInt(10));
+      case 12 -> steepness();
       case 13 -> same("volumeWith", map.volumeWith(x, y, height), model.volumeWith(x, y, height));
       case 14 -> same("endsWith", map.endsWith(x, y, height), model.endsWith(x, y, height));
-      default -> same("lookout", map.lookout(y, up), model.lookout(y, up));
+      case 15 -> same("lookout", map.lookout(y, up), model.lookout(y, up));
+      case 16 -> same("height", map.height(x, y), model.height(x, y));
+      case 17 -> same("level", map.level(x, y), model.level(x, y));
+      case 18 -> lake(x, y, random.nextInt(2));
+      default -> water(x, y, kind - 19);
     }
   }
 
-  private void contours(int c) {
-    for (int what = 0; what <= 2; what++) {
-      same("contour(" + c + ", " + what + ")", map.contour(c, what), model.contour(c, what));
-    }
+  private void contour(int c, int what) {
+    same("contour(" + c + ", " + what + ")", map.contour(c, what), model.contour(c, what));
   }
 
-  private void way(int x, int y, int toX, int toY) {
-    for (int back = 0; back <= 9; back++) {
-      same("way", map.way(x, y, toX, toY, back), model.way(x, y, toX, toY, back));
-    }
+  private void way(int x, int y, int toX, int toY, int back) {
+    same("way " + back, map.way(x, y, toX, toY, back), model.way(x, y, toX, toY, back));
   }
 
-  private void allOf(int x, int y) {
-    same("height", map.height(x, y), model.heights[y][x]);
-    same("level", map.level(x, y), model.level(y * model.w() + x));
-    for (int what = 0; what <= 4; what++) {
-      same("water " + what, map.water(x, y, what), model.water(x, y, what));
-    }
-    same("lake 0", map.lake(x, y, 0), model.lake(x, y, 0));
-    same("lake 1", map.lake(x, y, 1), model.lake(x, y, 1));
+  private void steepness() {
+    calls++;
+    Due.is("run " + run + ", call " + calls + ": steepness", map.steepness(), model.steepness());
+  }
+
+  private void lake(int x, int y, int what) {
+    same("lake " + what, map.lake(x, y, what), model.lake(x, y, what));
+  }
+
+  private void water(int x, int y, int what) {
+    same("water " + what, map.water(x, y, what), model.water(x, y, what));
   }
 }

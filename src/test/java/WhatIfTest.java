@@ -84,46 +84,24 @@ final class WhatIfTest {
   }
 
   private static void digest() {
-    for (String[] rows : new String[][] {BOWL, FUNNEL, {"0 0", "0 0"}}) {
-      WatershedMap map = Maps.of(rows);
-      Due.is("31: digest()", map.digest(), digestOf(map));
-    }
+    digestIs("a bowl", BOWL);
+    digestIs("a funnel", FUNNEL);
+    digestIs("a plain", "0 0", "0 0");
+    digestIs("LINES at its very numbers", "99 100 101 199", "200 201 399 400", "401 99 200 400");
     WatershedMap map = new WatershedMap();
-    map.tilt(20, 15, 8);
-    map.hill(6, 6, 4, 200);
-    map.hill(3, 8, 3, -250);
-    Due.is("31: digest() of a land", map.digest(), digestOf(map));
-    WatershedMap steps = Maps.of("99 100 101 199", "200 201 399 400", "401 99 200 400");
-    Due.is("31: digest() with LINES at its very numbers", steps.digest(), digestOf(steps));
+    Model model = new Model();
+    Due.is("31: digest() of a new object", map.digest(), model.digest().longValue());
+    Due.is("4: tilt(20, 15, 8)", map.tilt(20, 15, 8), model.tilt(20, 15, 8));
+    Due.is("5: hill(6, 6, 4, 200)", map.hill(6, 6, 4, 200), model.hill(6, 6, 4, 200));
+    Due.is("5: hill(3, 8, 3, -250)", map.hill(3, 8, 3, -250), model.hill(3, 8, 3, -250));
     long before = map.digest();
-    map.setBrook(2);
-    Due.is("31: digest() with another BROOK", map.digest(), digestOf(map));
+    Due.is("31: digest() of a land", before, model.digest().longValue());
+    Due.is("10: setBrook(2)", map.setBrook(2), model.setBrook(2));
+    Due.is("31: digest() with another BROOK", map.digest(), model.digest().longValue());
     Due.is("31: that is another one", map.digest() != before, true);
   }
 
-  private static long digestOf(WatershedMap map) {
-    long d = 58078;
-    for (int what = 0; what <= 4; what++) {
-      d = d * 31 + map.map(what);
-    }
-    int[] counts = {map.basins(), map.pits(), map.mostRank(), map.longestStream(), map.lakes(), map.volume()};
-    for (int count : counts) {
-      d = d * 31 + count;
-    }
-    for (int c : new int[] {100, 200, 400}) {
-      for (int what = 0; what <= 2; what++) {
-        d = d * 31 + map.contour(c, what);
-      }
-    }
-    for (int number = 0; number < map.map(0) * map.map(1); number++) {
-      int x = number % map.map(0);
-      int y = number / map.map(0);
-      d = d * 31 + map.height(x, y);
-      for (int what = 0; what <= 4; what++) {
-        d = d * 31 + map.water(x, y, what);
-      }
-      d = d * 31 + map.level(x, y);
-    }
-    return d;
+  private static void digestIs(String what, String... rows) {
+    Due.is("31: digest() of " + what, Maps.of(rows).digest(), Model.of(rows).digest().longValue());
   }
 }
