@@ -135,20 +135,9 @@ final class HollowsEdgesTest {
     Due.is("20: the EDGE is of none", map.lake(4, 4, 1), 0);
   }
 
-  private static WatershedMap chessBoard() {
-    WatershedMap map = new WatershedMap();
-    map.reset(16, 16);
-    for (int number = 0; number < 256; number++) {
-      if ((number % 16 + number / 16) % 2 == 1) {
-        map.set(number % 16, number / 16, 10);
-      }
-    }
-    return map;
-  }
-
   /** "how many LAKES there are": the most that there can be. */
   private static void mostLakes() {
-    WatershedMap map = chessBoard();
+    WatershedMap map = Maps.chessBoard(10);
     Due.is("19: lakes() of a chess board", map.lakes(), 98);
     Due.is("21: volume() of a chess board", map.volume(), 980);
     Due.is("20: FIELDS of one", map.lake(14, 14, 0), 1);
@@ -287,7 +276,7 @@ final class HollowsEdgesTest {
     WatershedMap map = Maps.of("0 0 0 0", "0 10 0 0", "0 0 10 0", "0 0 0 0");
     contourIs("two peaks inside, apart", map, 5, 8, 2, 2);
     contourIs("two peaks inside, joined", map, 4, 8, 1, 1);
-    WatershedMap board = chessBoard();
+    WatershedMap board = Maps.chessBoard(10);
     contourIs("a chess board", board, 4, 450, 128, 98);
     contourIs("a chess board", board, 5, 450, 128, 98);
     contourIs("a chess board", board, 9, 450, 128, 98);

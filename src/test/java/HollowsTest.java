@@ -118,11 +118,7 @@ final class HollowsTest {
     contourIs("a wall", Maps.of("0 10 0", "0 10 0", "0 10 0"), 3, 4, 2, 0);
     contourIs("two corners", Maps.of("10 0", "0 10"), 4, 2, 2, 0);
     contourIs("a moat", Maps.of("0 0 0 0 0", "0 9 9 9 0", "0 9 0 9 0", "0 9 9 9 0", "0 0 0 0 0"), 4, 16, 2, 2);
-    WatershedMap board = new WatershedMap();
-    board.reset(16, 16);
-    for (int number = 0; number < 256; number++) {
-      board.set(number % 16, number / 16, (number % 16 + number / 16) % 2 * 10);
-    }
+    WatershedMap board = Maps.chessBoard(10);
     // all squares are saddles: at 4 each low FIELD is alone, at 5 each high one; 98 of 128 are not at the EDGE
     contourIs("a chess board", board, 4, 450, 128, 98);
     contourIs("a chess board", board, 5, 450, 128, 98);

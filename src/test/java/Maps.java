@@ -61,6 +61,18 @@ final class Maps {
     return map;
   }
 
+  /** A MAP of the greatest size, of which every other FIELD is so high, the others 0, that in the corner too. */
+  static WatershedMap chessBoard(int height) {
+    WatershedMap map = new WatershedMap();
+    map.reset(16, 16);
+    for (int number = 0; number < 256; number++) {
+      if ((number % 16 + number / 16) % 2 == 1) {
+        map.set(number % 16, number / 16, height);
+      }
+    }
+    return map;
+  }
+
   /** From which all water goes to FIELD 0. */
   static WatershedMap slope(int w, int h) {
     WatershedMap map = new WatershedMap();

@@ -225,7 +225,7 @@ final class SightAndWaysEdgesTest {
     }
   }
 
-  /** "0 for the last FIELD of the WAY, 1 for the one ahead of that"; "-1 ahead of the first one (also further back)". */
+  /** "0 for the last FIELD of the WAY"; "-1 ahead of the first one (also further back)"; "if back is below 0". */
   private static void leastAndGreatestBack() {
     WatershedMap map = Maps.flat(2, 2, 5);
     Due.is("26: 0 back", map.way(0, 0, 1, 1, 0), 3);
@@ -244,7 +244,7 @@ final class SightAndWaysEdgesTest {
     }
   }
 
-  /** "seen from its end: of the FIELDS from which one can come to a FIELD with least, that with the smallest NUMBER". */
+  /** "of the FIELDS from which one can come to a FIELD with least, that with the smallest NUMBER". */
   private static void smallestNumber() {
     WatershedMap plain = Maps.flat(3, 3, 5);
     wayIs("to the right and down", plain, new int[] {0, 0, 2, 1}, 5, 1, 0, -1);
@@ -293,14 +293,7 @@ final class SightAndWaysEdgesTest {
   /** "the greatest difference of its HEIGHT and that of a NEIGHBOUR, without a sign": 999 everywhere. */
   private static void steepnessAtItsMost() {
     Due.is("27: of the smallest MAP", Maps.of("0 999", "0 0").steepness(), 999.0);
-    WatershedMap map = new WatershedMap();
-    map.reset(16, 16);
-    for (int number = 0; number < 256; number++) {
-      if ((number % 16 + number / 16) % 2 == 1) {
-        map.set(number % 16, number / 16, 999);
-      }
-    }
-    Due.is("27: of the largest MAP", map.steepness(), 999.0);
+    Due.is("27: of the largest MAP", Maps.chessBoard(999).steepness(), 999.0);
   }
 
   /** "the mean over all FIELDS, not cut": a peak in a corner, at the EDGE and inside. */

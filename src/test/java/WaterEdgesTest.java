@@ -53,7 +53,8 @@ final class WaterEdgesTest {
           int y = place[1] + DY[d];
           if (isField(size, x, y)) {
             map.set(x, y, 8);
-            Due.is("13: from " + place[0] + ", " + place[1] + " in DIRECTION " + d, map.water(place[0], place[1], 0), d);
+            String from = place[0] + ", " + place[1];
+            Due.is("13: from " + from + " in DIRECTION " + d, map.water(place[0], place[1], 0), d);
             map.set(x, y, 9);
           }
         }
@@ -166,7 +167,7 @@ final class WaterEdgesTest {
     Due.is("13: FLOW 1 with BROOK 1", map.water(1, 1, 3), 1);
   }
 
-  /** "1, if no FIELD of a STREAM goes to it; otherwise the greatest RANK of those (of STREAMS) that do, one more ..". */
+  /** "1, if no FIELD of a STREAM goes to it; otherwise the greatest RANK of those (of STREAMS) that do". */
   private static void ranks() {
     int[][] dues = {{1, 1, 2, 2}, {2, 1, 1, 1}, {3, 0, 1, 1}, {4, 0, 1, 1}, {5, 0, 0, 1}, {6, 0, 0, 1}, {7, 0, 0, 0}};
     for (int[] due : dues) {
